@@ -1657,7 +1657,7 @@ public final class PrivateViews {
             for (int place = 0; place < list.length() && place < MOST_ROWS; place++) {
                 ranks[place] = sheet.ordered.placeOf(list.at(place));
             }
-            if (isTold(sheet, list, 0)) {
+            if (isTold(sheet, list, NONE, NONE)) {
                 sortsNeeded = 0;
             } else if (tellOneSort(sheet, list)) {
                 sortsNeeded = 1;
@@ -1669,8 +1669,9 @@ public final class PrivateViews {
         }
 
         private boolean tellOneSort(Sheet sheet, RowList list) {
-            for (firstSort = 0; firstSort < 2 * sheet.columns; firstSort++) {
-                if (isTold(sheet, list, 1)) {
+            for (int sort = 0; sort < 2 * sheet.columns; sort++) {
+                if (isTold(sheet, list, sort, NONE)) {
+                    firstSort = sort;
                     return true;
                 }
             }
@@ -1678,9 +1679,11 @@ public final class PrivateViews {
         }
 
         private boolean tellTwoSorts(Sheet sheet, RowList list) {
-            for (firstSort = 0; firstSort < 2 * sheet.columns; firstSort++) {
-                for (secondSort = 0; secondSort < 2 * sheet.columns; secondSort++) {
-                    if (firstSort / 2 != secondSort / 2 && isTold(sheet, list, 2)) {
+            for (int first = 0; first < 2 * sheet.columns; first++) {
+                for (int second = 0; second < 2 * sheet.columns; second++) {
+                    if (first / 2 != second / 2 && isTold(sheet, list, first, second)) {
+                        firstSort = first;
+                        secondSort = second;
                         return true;
                     }
                 }
@@ -1689,13 +1692,13 @@ public final class PrivateViews {
         }
 
         // Neighbours are enough: what the sorts leave alike must stand as in the order.
-        private boolean isTold(Sheet sheet, RowList list, int sortsUsed) {
+        private boolean isTold(Sheet sheet, RowList list, int first, int second) {
             for (int place = 1; place < list.length() && place < MOST_ROWS; place++) {
                 int seat = list.at(place - 1);
                 int next = list.at(place);
-                int compared = sortsUsed > 0 ? sheet.compareBy(firstSort, seat, next) : 0;
-                if (compared == 0 && sortsUsed > 1) {
-                    compared = sheet.compareBy(secondSort, seat, next);
+                int compared = first == NONE ? 0 : sheet.compareBy(first, seat, next);
+                if (compared == 0 && second != NONE) {
+                    compared = sheet.compareBy(second, seat, next);
                 }
                 if (compared == 0) {
                     compared = ranks[place - 1] - ranks[place];
