@@ -198,6 +198,9 @@ public final class EdgeAskTest {
         rich.stay("30: one", 1, x -> x.moves(2));
         rich.stay("30: of an empty list", 0, x -> x.moves(3));
         bare.stay("30: no rows", 0, x -> x.moves(0));
+        PrivateViews y = filtered();
+        y.set(0, 2, 2, 9);
+        due.is("30: one in the midst that does not fit is not counted", "0 2", () -> y.moves(2) + " " + y.stale(2));
         PrivateViews x = Samples.full();
         Due.view(x, 3, "up 0");
         for (int i = 0; i < 12; i++) {
@@ -339,6 +342,16 @@ public final class EdgeAskTest {
         String higher = "columns number number;row 1 2;row 2 1;row 0 2;row 5 1";
         due.is("32: the higher column first", "2:2 0", () -> told(higher, "up 1;up 0"));
         due.is("32: the higher column first, down", "2:3 1", () -> told(higher, "down 1;down 0"));
+        String like = "columns number number;row 1 2;row 2 1;row 1 1;row 2 3;row 1 3;row 2 2";
+        for (String sorts : new String[] {"up 0;up 1", "up 0;down 1", "down 0;up 1", "down 0;down 1"}) {
+            int first = sorts.startsWith("up") ? 0 : 1;
+            int second = sorts.endsWith("up 1") ? 2 : 3;
+            due.is("32: by " + sorts, "2:" + first + " " + second, () -> told(like, sorts));
+        }
+        String wide = "columns word word word number number;row a a a 1 2;row a a a 2 1;row a a a 1 1;row a a a 2 3;"
+                + "row a a a 1 3;row a a a 2 2";
+        due.is("32: the fourth and the fifth column", "2:6 9", () -> told(wide, "up 3;down 4"));
+        due.is("32: the fourth and the fifth column", "2:7 9", () -> told(wide, "down 3;down 4"));
     }
 
     // 33: "ROWS that are in THE ORDER between those two (both not), and not in THE LIST: how many".

@@ -18,6 +18,8 @@ public final class EdgeSheetTest {
         words();
         blanks();
         rows();
+        fullSheet();
+        cutWords();
         toldRows();
         kindsAndCells();
         orders();
@@ -106,6 +108,11 @@ public final class EdgeSheetTest {
         wrong(rich, 16, "row 5 a 1;row 9 9 9");
         PrivateViews x = new PrivateViews();
         due.noNumber("4: wrong behind its columns", () -> Due.sheet(x, "columns word;x"));
+        due.noNumber("5: there are none", () -> Due.view(x, 0, "up 0"));
+        due.is("6: no such column", 3, x::fault);
+        due.noNumber("5: there are none", () -> Due.view(x, 0, "0:a"));
+        due.is("6: no such column", 0, x::fault);
+        due.noPlace("7: there are none", () -> x.kind(0));
         due.is("4: columns may come yet", 1, () -> Due.sheet(x, "columns number"));
         due.is("4: as told then", 0, () -> x.kind(0));
         due.noNumber("4: wrong behind a row", () -> Due.sheet(x, "row 1;x"));
@@ -299,6 +306,63 @@ public final class EdgeSheetTest {
         Due.sheet(x, Samples.rows(14, 24));
         x.drop(0, 23);
         return x;
+    }
+
+    private static String wideRows(int from, int to) {
+        StringBuilder text = new StringBuilder();
+        for (int i = from; i < to; i++) {
+            text.append(i == from ? "" : ";").append("row ").append(i).append(" a -").append(i).append(" . ").append(i + 1);
+        }
+        return text.toString();
+    }
+
+    // 14 LINES of 5 CELLS in one text, 24 ROWS of 5 CELLS in all.
+    private static void fullSheet() {
+        PrivateViews x = new PrivateViews();
+        Due.sheet(x, "columns number word number word number");
+        due.is("4: 14 rows of five", 2, () -> Due.sheet(x, wideRows(0, 14)));
+        due.is("4: 10 rows more", 3, () -> Due.sheet(x, wideRows(14, 24)));
+        for (int i = 0; i < 24; i++) {
+            int key = i;
+            due.is("8: row " + key, key + " 19683 " + -key + " . " + (key + 1), () -> cells(x, key));
+        }
+        due.is("14: the last cell", 23, () -> x.set(3, 23, 4, -7));
+        due.is("8: the last cell", -7, () -> x.cell(23, 4));
+        due.is("36: by", 3, () -> x.by(23, 4));
+        due.is("36: by none", "-1 -1", () -> x.by(23, 3) + " " + x.by(22, 4));
+        PrivateViews y = new PrivateViews();
+        Due.sheet(y, "columns number word number word number;" + wideRows(0, 13));
+        due.is("8: the last line's last cell", 13, () -> y.cell(12, 4));
+    }
+
+    // "Words in texts are as long as a to z go on": up to the text's end, whatever stood behind it on the TAPE.
+    private static void cutWords() {
+        PrivateViews x = new PrivateViews();
+        Due.feed(x, "columns wordword");
+        x.end(12);
+        due.is("4: cut", 1, x::sheet);
+        Due.feed(x, "row abcdefgh");
+        x.end(8);
+        due.is("4: cut", 2, x::sheet);
+        due.is("8: the word", Due.word("abcd"), () -> x.cell(0, 0));
+        Due.feed(x, "0:blanks");
+        x.end(7);
+        due.is("5: cut", 0, () -> x.view(0));
+        due.is("5: a text of 400 bytes that a word ends", 0, () -> Due.view(x, 0, " ".repeat(393) + "0:blank"));
+        due.is("5: a text of 400 bytes that a pattern ends", 1, () -> Due.view(x, 0, " ".repeat(395) + "0:ab*"));
+        due.is("4: a text of 400 bytes that a word ends", 3, () -> Due.sheet(x, " ".repeat(392) + "row wxyz"));
+        due.is("8: the word", Due.word("wxyz"), () -> x.cell(1, 0));
+        for (String after : new String[] {"a", "m", "z"}) {
+            wrong(bare, 0, "columns" + after + " word");
+            wrong(bare, 8, "columns word" + after);
+            wrong(bare, 8, "columns number" + after);
+            wrong(told, 0, "row" + after + " 1 a");
+        }
+        for (String after : new String[] {"`", "{", "A", "Z", "_"}) {
+            wrong(bare, 7, "columns" + after + " word");
+            wrong(bare, 12, "columns word" + after);
+            wrong(told, 3, "row" + after + " 1 a");
+        }
     }
 
     // "A ROW that is told comes last in THE ORDER, and last in THE LIST of each VIEW that it FITS."

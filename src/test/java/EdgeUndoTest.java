@@ -27,6 +27,7 @@ public final class EdgeUndoTest {
         image();
         imageKeepsAll();
         imageOfEdits();
+        imageOfLog();
         counts();
         due.end();
     }
@@ -415,6 +416,24 @@ public final class EdgeUndoTest {
         due.is("45: as a new one", told(new PrivateViews()), () -> told(y));
         due.is("4: columns come first again", 1, () -> Due.sheet(y, "columns number;row 7"));
         due.is("8: a cell", 7, () -> y.cell(0, 0));
+    }
+
+    private static void imageOfLog() {
+        PrivateViews x = zeros();
+        for (int i = 1; i <= 43; i++) {
+            x.set(i % 3, i % 2, 0, i);
+        }
+        x.image();
+        for (int i = 50; i < 95; i++) {
+            x.set(3, 2, 0, i);
+        }
+        due.is("45: back", true, x::back);
+        due.is("45: the latest of the log", "1 1 0 41 43", () -> Due.log(x, 0));
+        due.is("45: the oldest of the log", "1 0 0 2 4", () -> Due.log(x, 39));
+        due.is("45: so many", 40, () -> x.count(4));
+        x.set(3, 2, 0, 7);
+        due.is("43: goes on from there", "3 2 0 0 7|1 1 0 41 43|2 1 0 3 5", () -> Due.log(x, 0) + "|" + Due.log(x, 1)
+                + "|" + Due.log(x, 39));
     }
 
     // 46: "0 COLUMNS, 1 ROWS, 2 texts of THE SHEET, 3 KEYS so far, 4 rows of THE LOG. NONE for another what."

@@ -319,6 +319,28 @@ public final class EdgeViewTest {
             right("1:" + other);
             right("1:" + other + "*");
         }
+        for (String after : new String[] {"a", "m", "z"}) {
+            right("1:or" + after);
+            right("1:to" + after + "*");
+            right("1:up" + after + "?");
+            right("1:not" + after);
+            wrong(0, "up" + after + " 0");
+            wrong(0, "down" + after + " 0");
+            wrong(0, "hide" + after + " 0");
+            wrong(4, "0:1 or" + after + " 2");
+            wrong(4, "0:1 to" + after + " 2");
+            wrong(2, "0:not" + after + " 1");
+            wrong(2, "0:blank" + after);
+        }
+        for (String after : new String[] {"`", "{", "A", "Z", "_"}) {
+            wrong(2, "up" + after + " 0");
+            wrong(4, "down" + after + " 0");
+            wrong(4, "hide" + after + " 0");
+            wrong(6, "0:1 or" + after + " 2");
+            wrong(6, "0:1 to" + after + " 2");
+            wrong(5, "0:not" + after + " 1");
+            wrong(7, "0:blank" + after);
+        }
         wrong(2, "1:blanks");
         wrong(2, "1:downs");
         wrong(2, "1:hides");

@@ -12,10 +12,14 @@ public final class ModelTest {
     private static final String[] NOISE = {" ", ";", ":", ",", "*", "?", "-", ".", "0", "9", "1000", "a", "or", "to",
         "not", "blank", "up", "down", "hide", "row", "columns", "word", "number", "Z", "\u00e9", "\0", " not not not not not "};
 
+    /** What an object answers behind that many calls is free. */
+    private static final int MOST_CALLS = 512;
+
     private final Random random;
     private final PrivateViews x = new PrivateViews();
     private final Model model = new Model();
     private final List<String> trail = new ArrayList<>();
+    private int calls = 0;
     private int columns = 0;
     private boolean[] words = new boolean[0];
 
@@ -24,7 +28,7 @@ public final class ModelTest {
     }
 
     public static void main(String[] args) throws Exception {
-        int runs = args.length > 0 ? Integer.parseInt(args[0]) : 600;
+        int runs = args.length > 0 ? Integer.parseInt(args[0]) : 3000;
         for (int seed = 0; seed < runs; seed++) {
             new ModelTest(seed).run(seed);
         }
@@ -32,7 +36,7 @@ public final class ModelTest {
     }
 
     private void run(int seed) throws Exception {
-        for (int i = 0; i < 500; i++) {
+        while (calls < MOST_CALLS) {
             if (!step()) {
                 System.out.println("ModelTest: run " + seed + " differs");
                 trail.subList(Math.max(0, trail.size() - 25), trail.size()).forEach(System.out::println);
@@ -148,18 +152,14 @@ public final class ModelTest {
         }
     }
 
-    /** All rows, lists and cells: what an edit did elsewhere shows here. */
+    /** All rows, those of one list, the cells of one column: what an edit did elsewhere shows here. */
     private boolean whole() throws Exception {
-        boolean alike = true;
-        for (int i = 0; alike && i < 24; i++) {
-            alike = same("order", i);
-            for (int view = 0; alike && view < 4; view++) {
-                alike = same("row", view, i);
-            }
+        int view = upTo(4);
+        int column = columns == 0 ? 0 : upTo(columns);
+        boolean alike = same("order", model.count(1)) && same("row", view, model.about(view, 0));
+        for (int i = 0; alike && i < model.count(1); i++) {
             int key = model.order(i);
-            for (int column = 0; alike && key >= 0 && column < columns; column++) {
-                alike = same("cell", key, column) && same("by", key, column);
-            }
+            alike = same("order", i) && same("row", view, i) && same("cell", key, column) && same("by", key, column);
         }
         return alike;
     }
@@ -334,6 +334,10 @@ public final class ModelTest {
     }
 
     private boolean same(String name, Object... args) throws Exception {
+        if (calls >= MOST_CALLS) {
+            return true;
+        }
+        calls++;
         String got = answer(x, name, args);
         String want = answer(model, name, args);
         trail.add(name + Arrays.toString(args) + " answered " + got + ", the model " + want);

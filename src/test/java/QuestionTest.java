@@ -287,13 +287,8 @@ public final class QuestionTest {
         due.is("and the tape", 2, x::sheet);
         due.is("edits are remembered", 1, () -> x.undo(1));
         due.is("back again", true, x::back);
-        due.is("all is as it was", kept, () -> whole(x));
         due.is("an edit of several cells", 2, () -> x.undo(0));
-        x.image();
-        String later = whole(x);
-        x.drop(0, 0);
-        x.back();
-        due.is("the later image", later, () -> whole(x));
+        laterImage();
         PrivateViews y = new PrivateViews();
         y.image();
         Due.sheet(y, "columns number;row 1");
@@ -301,6 +296,17 @@ public final class QuestionTest {
         due.is("no columns", 0, () -> y.count(0));
         due.is("columns may come again", 1, () -> Due.sheet(y, "columns word;row a"));
         due.is("the key", 0, () -> y.order(0));
+    }
+
+    private static void laterImage() {
+        PrivateViews x = sample();
+        x.image();
+        x.set(1, 0, 0, 7);
+        x.image();
+        String later = whole(x);
+        x.drop(0, 0);
+        x.back();
+        due.is("the later image", later, () -> whole(x));
     }
 
     private static void counts() {
