@@ -831,8 +831,12 @@ public final class PrivateViews {
             if (!reader.takeSign(':')) {
                 return reader.failHere();
             }
+            boolean ofNumbers = kindAsked(column) == NUMBERS;
             for (int test = 0; test < MOST_TESTS; test++) {
-                if (!readTest(reader, filter, kindAsked(column))) {
+                int nots = takeNots(reader);
+                if (reader.takeWord("blank")) {
+                    filter.takeTest(Filter.BLANK, 0, 0, nots);
+                } else if (!(ofNumbers ? readRange(reader, filter, nots) : readPattern(reader, filter, nots))) {
                     return false;
                 }
                 if (!reader.takeWord("or")) {
@@ -843,16 +847,12 @@ public final class PrivateViews {
             return reader.failHere();
         }
 
-        private boolean readTest(Reader reader, Filter filter, int kindAsked) {
+        private int takeNots(Reader reader) {
             int nots = 0;
             while (nots < MOST_NOTS && reader.takeWord("not")) {
                 nots++;
             }
-            if (reader.takeWord("blank")) {
-                filter.takeTest(Filter.BLANK, 0, 0, nots);
-                return true;
-            }
-            return kindAsked == NUMBERS ? readRange(reader, filter, nots) : readPattern(reader, filter, nots);
+            return nots;
         }
 
         private boolean readRange(Reader reader, Filter filter, int nots) {
@@ -1456,7 +1456,7 @@ public final class PrivateViews {
         /** A new row is put last in the list of each view that it fits, but for the one through which it came. */
         void joinOthers(int seat, int through) {
             for (int i = 0; i < MOST_VIEWS; i++) {
-                if (i != through && views[i].lens.suits(sheet, seat)) {
+                if (i != through && views[i].lens.firstUnlike(sheet, seat) == NONE) {
                     views[i].list.putLast(seat);
                 }
             }

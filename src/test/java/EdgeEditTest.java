@@ -304,9 +304,11 @@ public final class EdgeEditTest {
     // "THE LIST of no VIEW changes by that."
     private static void listsStay() {
         Twins.Call[] edits = {x -> x.set(0, 0, 0, 99), x -> x.set(0, 1, 0, 9), x -> x.clear(0, 5, 0),
-            x -> x.fill(0, 3, 5, 0), x -> x.replace(0, 0, 5, 99), x -> x.swap(0, 0, 5, 0), x -> x.undo(0)};
+            x -> x.fill(0, 3, 5, 0), x -> x.replace(0, 0, 5, 99), x -> x.swap(0, 0, 5, 0), x -> x.undo(0),
+            x -> Due.paste(x, 0, 0, 0, "99;5;.;99;9;1")};
         for (Twins.Call edit : edits) {
             PrivateViews x = Samples.rich();
+            x.end(0);
             String before = lists(x);
             edit.on(x);
             due.is("2: no list changes by an edit", before, () -> lists(x));
